@@ -920,13 +920,14 @@ public final class SmallHarbour {
      * stands in it as it is; all else as the negative of a sign.
      */
     private static final class Reader {
-        // Kinds of tokens; a sign of one byte, f, n and d are their own kind.
+        // Kinds of tokens: signs and words are their own kind, by their bytes.
         private static final int END = 0;
         private static final int NO_TOKEN = 1;
         private static final int NUMBER = '0';
-        private static final int IF = 'i';
-        private static final int THEN = 't';
-        private static final int ELSE = 'e';
+        private static final int IF = 'i' << 8 | 'f';
+        private static final int THEN = 't' << 24 | 'h' << 16 | 'e' << 8 | 'n';
+        private static final int ELSE = 'e' << 24 | 'l' << 16 | 's' << 8 | 'e';
+        private static final int LONGEST_WORD = 4;
 
         private static final int CANNOT_STAND = 1;
         private static final int TOO_LARGE = 2;
@@ -1126,32 +1127,28 @@ public final class SmallHarbour {
         }
 
         private void comeToWord() {
+            int word = 0;
             while (next < tape.count && isLetter(tape.bytes[next])) {
+                word = word << 8 | tape.bytes[next];
                 next++;
             }
-            if (isWord("f") || isWord("n") || isWord("d")) {
-                kind = tape.bytes[start];
-            } else if (isWord("if")) {
-                kind = IF;
-            } else if (isWord("then")) {
-                kind = THEN;
-            } else if (isWord("else")) {
-                kind = ELSE;
-            } else {
-                kind = NO_TOKEN;
-            }
+            // A longer word has lost its first letters in the shifts.
+            boolean isWhole = next - start <= LONGEST_WORD;
+            kind = isWhole && isWord(word) ? word : NO_TOKEN;
         }
 
-        private boolean isWord(String word) {
-            if (next - start != word.length()) {
-                return false;
-            }
-            for (int i = 0; i < word.length(); i++) {
-                if (tape.bytes[start + i] != word.charAt(i)) {
+        private static boolean isWord(int word) {
+            switch (word) {
+                case 'f':
+                case 'n':
+                case 'd':
+                case IF:
+                case THEN:
+                case ELSE:
+                    return true;
+                default:
                     return false;
-                }
             }
-            return true;
         }
 
         private static boolean isDigit(int c) {

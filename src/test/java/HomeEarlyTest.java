@@ -11,6 +11,8 @@ public final class HomeEarlyTest {
         ofAsFewTheFirstByBerths();
         stayOfALaterSpanIsLeft();
         noWayChangesNothing();
+        allTwelveAreMoved();
+        otherSpansAreKept();
         moreThanTwelveStaysAreSpent();
         triesAreCounted();
         staysAboveFortyAreRefused();
@@ -196,6 +198,46 @@ public final class HomeEarlyTest {
         DUE.is("lies(0, 5)", x.lies(0, 5), 1);
         DUE.is("lies(0, 40)", x.lies(0, 40), -1);
         DUE.is("behind the stay", x.home(0, 10), 0);
+    }
+
+    private static void allTwelveAreMoved() {
+        SmallHarbour x = harbour(90);
+        x.boat(90, 0, 1, 0);
+        visitors(x, 90);
+        x.away(0, 0, 50);
+        for (int i = 0; i < 12; i++) {
+            x.stay(1, 10 + i, 11 + i);
+        }
+        x.berth(90, 5);
+        DUE.is("home(0, 9)", x.home(0, 9), 12);
+        DUE.is("moved(11, 0)", x.moved(11, 0), 11);
+        DUE.is("moved(11, 1)", x.moved(11, 1), 1);
+        DUE.is("moved(12, 0)", x.moved(12, 0), -1);
+    }
+
+    private static void otherSpansAreKept() {
+        SmallHarbour x = harbour(90, 90);
+        x.boat(90, 0, 1, 0);
+        x.boat(90, 0, 1, 1);
+        x.away(0, 10, 20);
+        x.away(1, 11, 21);
+        x.away(0, 30, 40);
+        x.away(1, 31, 41);
+        DUE.is("the first span goes", x.home(0, 10), 0);
+        DUE.is("about(3)", x.about(3), 3);
+        DUE.is("lies(0, 15)", x.lies(0, 15), 0);
+        DUE.is("lies(1, 11)", x.lies(1, 11), -1);
+        DUE.is("lies(1, 20)", x.lies(1, 20), -1);
+        DUE.is("lies(0, 30)", x.lies(0, 30), -1);
+        DUE.is("lies(0, 39)", x.lies(0, 39), -1);
+        DUE.is("lies(0, 40)", x.lies(0, 40), 0);
+        DUE.is("lies(1, 30)", x.lies(1, 30), 1);
+        DUE.is("lies(1, 31)", x.lies(1, 31), -1);
+        DUE.is("lies(1, 40)", x.lies(1, 40), -1);
+        DUE.is("the last span goes", x.home(1, 31), 0);
+        DUE.is("about(3)", x.about(3), 2);
+        DUE.is("lies(1, 35)", x.lies(1, 35), 1);
+        DUE.is("lies(0, 35)", x.lies(0, 35), -1);
     }
 
     private static void moreThanTwelveStaysAreSpent() {

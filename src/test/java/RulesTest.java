@@ -12,6 +12,7 @@ public final class RulesTest {
         faultsOfNumbers();
         faultsOfTooMany();
         theLowestFaultOfOneToken();
+        eachTextIsReadAnew();
         billsGoByTheRuleInForce();
         owesGoesRound();
         DUE.finish();
@@ -164,9 +165,27 @@ public final class RulesTest {
         faulty("f2", 1, 1);
         faulty("2f", 1, 1);
         faulty("fn", 1, 0);
+        faulty("fa", 1, 0);
+        faulty("fz", 1, 0);
+        faulty("fA", 1, 0);
+        faulty("fZ", 1, 0);
+        faulty("f@", 1, 1);
+        faulty("f[", 1, 1);
+        faulty("f`", 1, 1);
+        faulty("f{", 1, 1);
+        faulty("1/x", 1, 2);
+        faulty("1:", 1, 1);
+        faulty("-x1", 1, 1);
+        faulty("(x 1)", 1, 1);
         faulty("F", 1, 0);
         faulty("1+If", 1, 2);
         faulty("thenelse", 1, 0);
+        faulty("if 1 xthen 2 else 3", 1, 5);
+        faulty("zzzzf", 1, 0);
+        faulty("zzif 1 then 2 else 3", 1, 0);
+        faulty("if 1 the 2 else 3", 1, 5);
+        faulty("if 1 Then 2 else 3", 1, 5);
+        faulty("if 1 then 2 elsE 3", 1, 12);
         faulty("iff 1 then 2 else 3", 1, 0);
         faulty("1#", 1, 1);
         faulty("1\t", 1, 1);
@@ -225,6 +244,8 @@ public final class RulesTest {
         faulty("(if -".repeat(3) + "1", 1, 16);
         faulty("(if -".repeat(3) + "(-1", 3, 16);
         faulty("(".repeat(10) + "-1", 3, 10);
+        String ifs = "(if 1 then 1 else 1)" + "+(if 1 then 1 else 1)".repeat(4);
+        says("(".repeat(5) + ifs + ")".repeat(5), 0, 0, 0, 5);
         says("(".repeat(9) + "-1" + ")".repeat(9), 0, 0, 0, -1);
         says("(".repeat(9) + "(1)+(2)+-3--4" + ")".repeat(9), 0, 0, 0, 4);
         says("(".repeat(10) + "1-2" + ")".repeat(10), 0, 0, 0, -1);
@@ -243,6 +264,21 @@ public final class RulesTest {
         faulty("-1" + "+1".repeat(29) + "#", 1, 60);
         faulty("1" + "+1".repeat(29) + "+100000", 2, 60);
         faulty("(".repeat(10) + "1(", 1, 11);
+    }
+
+    private static void eachTextIsReadAnew() {
+        SmallHarbour x = new SmallHarbour();
+        Texts.rule(x, "(".repeat(9) + "1+", 0);
+        DUE.is("fault(1)", x.fault(1), 11);
+        DUE.is("ten open", Texts.rule(x, "(".repeat(10) + "f" + ")".repeat(10), 0), 0);
+        Texts.rule(x, "1" + "+1".repeat(29), 0);
+        DUE.is("fault(0)", x.fault(0), 0);
+        DUE.is("59 tokens", x.says(1, 0, 0, 0), 30);
+        Texts.rule(x, "-1" + "+1".repeat(29), 0);
+        DUE.is("60 tokens", x.says(2, 0, 0, 0), 28);
+        Texts.rule(x, "n", 0);
+        DUE.is("says(3)", x.says(3, 1, 2, 3), 2);
+        DUE.is("says(0)", x.says(0, 1, 2, 3), 1);
     }
 
     private static void billsGoByTheRuleInForce() {

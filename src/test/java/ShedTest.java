@@ -8,6 +8,7 @@ public final class ShedTest {
         boatsThatGoOutTogetherNeedNoMove();
         lanesMustHoldTheirBoats();
         fewestMovesThenFirstLanes();
+        aNewShedForgetsTheFormer();
         allLanesOfNineBoatsAreLookedAt();
         DUE.finish();
     }
@@ -49,6 +50,7 @@ public final class ShedTest {
         DUE.is("it is there", x.winter(0, 5), -1);
         for (int i = 1; i < 9; i++) {
             DUE.is("boat " + i, x.winter(i, 0), i + 1);
+            DUE.is("it is there, " + i, x.winter(i, 0), -1);
         }
         DUE.is("the 10th", x.winter(9, 0), -1);
         DUE.is("about(5)", x.about(5), 9);
@@ -97,6 +99,23 @@ public final class ShedTest {
         for (int i = 0; i < lanes.length; i++) {
             DUE.is("lane(" + i + ")", x.lane(i), lanes[i]);
         }
+    }
+
+    private static void aNewShedForgetsTheFormer() {
+        SmallHarbour x = harbour(10, 10);
+        x.winter(0, 1);
+        x.winter(1, 2);
+        DUE.is("moves", x.moves(), 1);
+        x.shed(1, 19);
+        DUE.is("moves of none", x.moves(), 0);
+        DUE.is("the later one first", x.winter(1, 2), 1);
+        DUE.is("then the earlier one", x.winter(0, 1), 2);
+        DUE.is("they can't be put", x.moves(), -1);
+        x.shed(1, 20);
+        DUE.is("moves of none", x.moves(), 0);
+        x.winter(1, 2);
+        x.winter(0, 1);
+        DUE.is("moves", x.moves(), 0);
     }
 
     // Every way to put nine boats into the lanes, in order, without leaving any out.

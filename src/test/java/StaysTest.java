@@ -7,6 +7,7 @@ public final class StaysTest {
         stayNeedsWaterOnEachNight();
         stayNeedsTheOwnerAway();
         stayRefusesOthers();
+        noneOfTenBerthsWillDo();
         thereAreFortyStays();
         leavesEndsAStay();
         stayOfTellsItsParts();
@@ -100,6 +101,18 @@ public final class StaysTest {
         DUE.is("its own first night", x.stay(0, 5, 11), -1);
         DUE.is("right behind", x.stay(0, 20, 25), 1);
         DUE.is("about(2)", x.about(2), 2);
+    }
+
+    private static void noneOfTenBerthsWillDo() {
+        SmallHarbour x = new SmallHarbour();
+        for (int i = 0; i < 10; i++) {
+            x.berth(50 + i, 5);
+        }
+        x.boat(60, 5, 1, -1);
+        x.boat(59, 5, 1, -1);
+        DUE.is("too long for ten", x.stay(0, 0, 400), -1);
+        DUE.is("the tenth will do", x.stay(1, 0, 400), 0);
+        DUE.is("its berth", x.stayOf(0, 1), 9);
     }
 
     private static void thereAreFortyStays() {
