@@ -168,6 +168,11 @@ public final class BerthsBoundsTest {
             told.refuses("a stay on night " + night, x -> x.boat(20, 5, 5, 0), -1);
             told.answers("the berth beside it", x -> x.boat(20, 5, 5, 1), 1);
         }
+        Scene left = free.then(x -> {
+            x.stay(0, 10, 20);
+            x.leaves(0, 11);
+        });
+        left.refuses("a stay that left early", x -> x.boat(20, 5, 5, 0), -1);
         BUSY.refuses("a stay that moved there", x -> x.boat(10, 0, 1, 4), -1);
         free.then(x -> x.stay(0, 0, 0)).answers("a stay that was refused", x -> x.boat(20, 5, 5, 0), 1);
     }

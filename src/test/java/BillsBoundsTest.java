@@ -37,6 +37,7 @@ public final class BillsBoundsTest {
         aNewObjectsLevelsAreZero();
         aboutTellsNineThings();
         aboutCountsTheTapeAndTheMoves();
+        questionsChangeNothing();
         DUE.finish();
     }
 
@@ -304,5 +305,26 @@ public final class BillsBoundsTest {
         EMPTY.answers("no moves at first", x -> x.about(8), 0);
         Scene none = BUSY.then(x -> x.home(1, 350));
         none.answers("a home() without moves", x -> x.about(8), 0);
+    }
+
+    // Of the calls that only tell, whether they find what they are asked for or not.
+    private static void questionsChangeNothing() {
+        BUSY.refuses("questions", x -> {
+            for (int i = -1; i <= 6; i++) {
+                x.moved(i, 1);
+                x.stayOf(i, 4);
+                x.lies(i, 15);
+                x.boatOf(i, 3);
+                x.boatOf(i, 115);
+                x.fits(i, 1, 15);
+                x.lifted(i);
+                x.lane(i);
+                x.fault(i);
+                x.says(i, 7, 8, 9);
+                x.owes(i);
+                x.about(i);
+            }
+            return x.moves();
+        }, 0);
     }
 }

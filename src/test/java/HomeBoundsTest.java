@@ -34,6 +34,7 @@ public final class HomeBoundsTest {
         anotherBerthMustFitFromThatDayOn();
         anotherBerthMustBeFreeFromThatDayOn();
         othersMayBeMovedToo();
+        eachStayIsMovedOnce();
         theFewestMoves();
         theFirstByBerthsOfTheStays();
         oneThatIsNotMovedCountsAsItsOwnBerth();
@@ -295,6 +296,27 @@ public final class HomeBoundsTest {
             done.answers("stay " + i, x -> x.stayOf(s, 1), s + 1);
         }
         chain.then(x -> x.berth(69, 5)).refuses("its berth is too short by one", x -> x.home(0, 0), -1);
+    }
+
+    // "each STAY once": two berths, each for a part of its nights, are no way.
+    private static void eachStayIsMovedOnce() {
+        Scene stay = PLAIN.then(x -> {
+            x.stay(1, 20, 30);
+            x.berth(50, 5);
+            x.berth(50, 5);
+            x.boat(50, 5, 1, 1);
+            x.boat(50, 5, 1, 2);
+        });
+        for (int day : new int[] {21, 25, 29}) {
+            Scene parts = stay.then(x -> {
+                x.away(3, 20, day);
+                x.away(4, day, 30);
+            });
+            parts.refuses("berth 1 to " + day + ", berth 2 from then on", x -> x.home(0, 20), -1);
+            parts.answers("berth 2 for all nights from then on", x -> x.home(0, day), 1);
+        }
+        stay.then(x -> x.away(3, 20, 30)).answers("berth 1 for all nights", x -> x.home(0, 20), 1);
+        stay.then(x -> x.away(4, 20, 30)).answers("berth 2 for all nights", x -> x.home(0, 20), 1);
     }
 
     // "the fewest MOVES": one, though the way of two comes first by berths.
